@@ -166,7 +166,11 @@ public final class RopeTreaty {
         if (now.in[jumper] == 0 || !now.mayTalk()) {
             return error(STATE);
         }
-        return now.agreeOn(treaty);
+        if (!now.isTaken(treaty)) {
+            return 0;
+        }
+        now.treaty = treaty;
+        return 1;
     }
 
     // ---- texts
@@ -690,15 +694,6 @@ public final class RopeTreaty {
             return true;
         }
 
-        /** A treaty that is taken becomes the treaty: 1 if it is, else 0. */
-        int agreeOn(int aTreaty) {
-            if (!isTaken(aTreaty)) {
-                return 0;
-            }
-            treaty = aTreaty;
-            return 1;
-        }
-
         /** How he likes a treaty who is in and likes it least. */
         int leastLiking(int aTreaty) {
             int least = MOST;
@@ -785,8 +780,9 @@ public final class RopeTreaty {
                 if (turns()) {
                     in[who] = 1;
                 }
-                if (in[who] == 1 && mayTalk()) {
-                    taken = agreeOn(aTreaty);
+                if (in[who] == 1 && mayTalk() && isTaken(aTreaty)) {
+                    treaty = aTreaty;
+                    taken = 1;
                 }
             }
             pass();
@@ -883,7 +879,7 @@ public final class RopeTreaty {
             for (int i = 0; i < length; i++) {
                 int sign = code[i];
                 if (sign == -'!' && top >= 1) {
-                    stack[top - 1] = truth(stack[top - 1] == 0);
+                    stack[top - 1] = stack[top - 1] == 0 ? 1 : 0;
                 } else if (sign < -3 && top >= 2) {
                     top--;
                     stack[top - 1] = join(-sign, stack[top - 1], stack[top]);
@@ -906,11 +902,11 @@ public final class RopeTreaty {
 
         private static int join(int sign, int left, int right) {
             switch (sign) {
-                case '|': return truth(left != 0 || right != 0);
-                case '&': return truth(left != 0 && right != 0);
-                case '<': return truth(left < right);
-                case '=': return truth(left == right);
-                case '>': return truth(left > right);
+                case '|': return left != 0 || right != 0 ? 1 : 0;
+                case '&': return left != 0 && right != 0 ? 1 : 0;
+                case '<': return left < right ? 1 : 0;
+                case '=': return left == right ? 1 : 0;
+                case '>': return left > right ? 1 : 0;
                 case '+': return left + right;
                 case '-': return left - right;
                 case '*': return left * right;
@@ -918,10 +914,6 @@ public final class RopeTreaty {
                 case '%': return right == 0 ? 0 : left % right;
                 default: return 0;
             }
-        }
-
-        private static int truth(boolean v) {
-            return v ? 1 : 0;
         }
     }
 

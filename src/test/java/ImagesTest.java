@@ -65,6 +65,8 @@ public final class ImagesTest {
         int[] then = all(x);
         DUE.is("image()", x.image(), 1);
         for (int round = 0; round < 2; round++) {
+            x.jump(1, 1);
+            x.rest(1, 0);
             x.beats(9);
             x.jumper(25, 9, 1);
             x.become(0, 12);
@@ -89,8 +91,13 @@ public final class ImagesTest {
         x.rest(0, 49);
         x.rest(1, 1);
         DUE.is("the numbers that wait, too", x.check(), 0);
+        x.tell(7);
+        x.tell(7);
         x.restore();
         DUE.is("they wait again", x.count(9), 2);
+        x.rest(0, 49);
+        x.rest(1, 1);
+        DUE.is("as they were", x.check(), 0);
     }
 
     private static void whatIsNotKept() {

@@ -223,6 +223,10 @@ public final class JumpersTest {
         RopeTreaty x = Due.beaten(20);
         x.jumper(58, 0, 0);
         x.jumper(22, 0, 0);
+        x.jumper(32, 0, 0);
+        for (int treaty = 0; treaty < 64; treaty += 7) {
+            DUE.is("child likes " + treaty, x.liking(2, treaty), new int[] {40, 42, 44, 41, 43}[treaty / 7 % 5]);
+        }
         DUE.is("runner at beat 20", x.liking(0, 2), 6);
         x.beats(1);
         DUE.is("runner at beat 21", x.liking(0, 2), 0);
@@ -239,7 +243,7 @@ public final class JumpersTest {
         DUE.is("held at 99", x.liking(1, 63), 99);
         DUE.is("treaty 64", x.liking(0, 64), Due.BEYOND);
         DUE.is("treaty -1", x.liking(0, -1), Due.BEYOND);
-        DUE.is("jumper 2", x.liking(2, 0), Due.BEYOND);
+        DUE.is("jumper 2", x.liking(3, 0), Due.BEYOND);
         DUE.is("jumper -1", x.liking(-1, 0), Due.BEYOND);
     }
 

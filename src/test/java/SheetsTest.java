@@ -172,6 +172,14 @@ public final class SheetsTest {
         x.put(1, 0, 4);
         x.put(1, 1, 5);
         DUE.is("fewer numbers than jumpers", x.judge(1), 2);
+        x.put(0, 0, 4);
+        x.put(0, 1, 5);
+        x.put(0, 2, 8);
+        x.put(0, 3, 4);
+        DUE.is("a number for no jumper", x.judge(0), 3);
+        Due.text(x, 0, "0");
+        x.sheet(1, 16, 2);
+        DUE.is("a jumper for no number", x.judge(1), 2);
         DUE.is("judge(4)", x.judge(4), Due.BEYOND);
         DUE.is("judge(-1)", x.judge(-1), Due.BEYOND);
         DUE.is("judge(2)", x.judge(2), Due.NONE);

@@ -177,6 +177,11 @@ public final class ThoughtTest {
         DUE.is("at beat 4, not at pepper", y.soon(9), 4);
         y.bar(27);
         DUE.is("never", y.soon(9), Due.NONE);
+        RopeTreaty z = new RopeTreaty();
+        z.jumper(50, 99, 1);
+        z.jump(0, 1);
+        z.bar(31);
+        DUE.is("of side 1, at beat 6", z.soon(9), 6);
         y.bar(0);
         Due.text(y, 0, "0");
         Due.text(y, 1, "99");
