@@ -10,11 +10,17 @@ final class Due {
     static final int PARTED = -1000000006;
 
     private final String name;
+    private String test = "";
     private int right;
     private int wrong;
 
     Due(String name) {
         this.name = name;
+    }
+
+    /** Names the test whose answers come now. */
+    void begins(String named) {
+        test = named + ": ";
     }
 
     void is(String call, long got, long want) {
@@ -24,7 +30,7 @@ final class Due {
         }
         wrong++;
         if (wrong <= 40) {
-            System.out.println(name + ": " + call + " answered " + got + ", due is " + want);
+            System.out.println(name + ": " + test + call + " answered " + got + ", due is " + want);
         }
     }
 
