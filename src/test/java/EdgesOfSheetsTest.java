@@ -17,13 +17,13 @@ public final class EdgesOfSheetsTest {
         return x;
     }
 
-    /** As yard(), with a SHEET 0 of 24 numbers 0 .. 23 of so many bits, and a SHEET 1 of 24, all 0. */
+    /** As yard(), with a SHEET 0 of 24 numbers 1 .. 24 of so many bits, and a SHEET 1 of 24, all 0. */
     private static RopeTreaty full(int bits) {
         RopeTreaty x = yard();
         x.sheet(0, bits, 24);
         x.sheet(1, bits, 24);
         for (int i = 0; i < 24; i++) {
-            x.put(0, i, i);
+            x.put(0, i, 1 + i);
         }
         return x;
     }
@@ -239,7 +239,7 @@ public final class EdgesOfSheetsTest {
             due[0] = 7;
             due[23] = 9;
             numbers("SHEET 1", x, 1, bits, 0, due);
-            numbers("SHEET 0", x, 0, bits, 0, row(24, 0));
+            numbers("SHEET 0", x, 0, bits, 0, row(24, 1));
         }
     }
 
@@ -330,11 +330,11 @@ public final class EdgesOfSheetsTest {
         for (int bits : BITS) {
             RopeTreaty x = full(bits);
             DUE.is("all", x.move(0, 0, 1, 0, 24), 24);
-            numbers("all", x, 1, bits, 0, row(24, 0));
+            numbers("all", x, 1, bits, 0, row(24, 1));
             DUE.is("the last to the first", x.move(0, 23, 1, 0, 1), 1);
             DUE.is("the first to the last", x.move(0, 0, 1, 23, 1), 1);
-            numbers("the first", x, 1, bits, 0, 23, 1);
-            numbers("the last", x, 1, bits, 22, 22, 0);
+            numbers("the first", x, 1, bits, 0, 24, 2);
+            numbers("the last", x, 1, bits, 22, 23, 1);
         }
     }
 
@@ -351,33 +351,33 @@ public final class EdgesOfSheetsTest {
         DUE.is("four to three", x.move(0, 0, 2, 0, 4), Due.BEYOND);
         DUE.is("four of three", x.move(2, 0, 0, 0, 4), Due.BEYOND);
         DUE.is("three from 21 on", x.move(0, 21, 2, 0, 3), 3);
-        numbers("three", x, 2, 8, 0, 21, 22, 23);
+        numbers("three", x, 2, 8, 0, 22, 23, 24);
         DUE.is("three to 21 on", x.move(2, 0, 1, 21, 3), 3);
         DUE.is("two to the second on", x.move(1, 0, 2, 1, 2), 2);
-        numbers("the first stays", x, 2, 8, 0, 21, 0, 0);
+        numbers("the first stays", x, 2, 8, 0, 22, 0, 0);
     }
 
     /** "(or the same) .. as they all were": on and back over itself, by one, of 24. */
     private static void p32_theSameAsTheyAllWere() {
         RopeTreaty x = full(16);
         DUE.is("on", x.move(0, 0, 0, 1, 23), 23);
-        numbers("the first stays", x, 0, 16, 0, 0);
-        numbers("on", x, 0, 16, 1, row(23, 0));
+        numbers("the first stays", x, 0, 16, 0, 1);
+        numbers("on", x, 0, 16, 1, row(23, 1));
         RopeTreaty y = full(16);
         DUE.is("back", y.move(0, 1, 0, 0, 23), 23);
-        numbers("back", y, 0, 16, 0, row(23, 1));
-        numbers("the last stays", y, 0, 16, 23, 23);
+        numbers("back", y, 0, 16, 0, row(23, 2));
+        numbers("the last stays", y, 0, 16, 23, 24);
         DUE.is("to where they stand", y.move(0, 0, 0, 0, 24), 24);
-        numbers("they stay", y, 0, 16, 0, row(23, 1));
+        numbers("they stay", y, 0, 16, 0, row(23, 2));
     }
 
     /** "n numbers of a SHEET .. come to another one": the one keeps its own. */
     private static void p32_theOneKeepsItsNumbers() {
         RopeTreaty x = full(32);
         x.move(0, 3, 1, 0, 4);
-        numbers("the one", x, 0, 32, 0, row(24, 0));
+        numbers("the one", x, 0, 32, 0, row(24, 1));
         x.put(0, 3, 77);
-        numbers("the other", x, 1, 32, 0, 3, 4, 5, 6, 0);
+        numbers("the other", x, 1, 32, 0, 4, 5, 6, 7, 0);
     }
 
     // ---- promise 33

@@ -65,6 +65,15 @@ public final class EdgesOfTermsTest {
         }
     }
 
+    /** "An object is used for at most 512 calls": the last of them is answered as the first. */
+    private static void e_512Calls() {
+        RopeTreaty x = new RopeTreaty();
+        for (int call = 1; call <= 511; call++) {
+            DUE.is("call " + call, x.told(0), Due.BEYOND);
+        }
+        DUE.is("call 512", x.told(1), 511);
+    }
+
     /** "Quotients are cut toward 0": of texts. */
     private static void e_quotientsOfTextsAreCutTowardZero() {
         RopeTreaty x = new RopeTreaty();

@@ -383,6 +383,28 @@ public final class EdgesOfTextsTest {
         gives("l&t", 1, 2, 0, 1);
     }
 
+    /** "| & < = > ! are 1 or 0": what is not so is 0, not less, so that it can be counted with. */
+    private static void s2_oneOrZero() {
+        for (int l = 0; l < 3; l++) {
+            for (int t = 0; t < 3; t++) {
+                gives("50+(l|t)", l, t, 0, l > 0 || t > 0 ? 51 : 50);
+                gives("50+(l&t)", l, t, 0, l > 0 && t > 0 ? 51 : 50);
+                gives("50+(l<t)", l, t, 0, l < t ? 51 : 50);
+                gives("50+(l=t)", l, t, 0, l == t ? 51 : 50);
+                gives("50+(l>t)", l, t, 0, l > t ? 51 : 50);
+                gives("50+!l", l, t, 0, l == 0 ? 51 : 50);
+            }
+        }
+    }
+
+    /** "all is worked out": what stands right of a | or & that is sure already may divide by 0. */
+    private static void s2_allIsWorkedOut() {
+        gives("l|t/s", 1, 7, 0, 1);
+        gives("l|t%s", 1, 7, 0, 1);
+        gives("l&t/s", 0, 7, 0, 0);
+        gives("!l&(t/s|t%s)", 1, 7, 0, 0);
+    }
+
     /** "< = > are 1 or 0": beside each other and alike. */
     private static void s2_likenesses() {
         gives("l<t", 4, 5, 0, 1);

@@ -37,6 +37,31 @@ public final class EdgesOfThoughtTest {
         EDGES.unchanged("odds", Edges::busy, x -> x.odds(0, 0) < 0 ? 1 : 0, 0);
     }
 
+    /** "JUMPERS (at most 6)": all that is asked of the sixth, or of six who are IN. */
+    private static void s3_ofSixJumpers() {
+        RopeTreaty x = new RopeTreaty();
+        for (int j = 0; j < 6; j++) {
+            x.jumper(30, 40 + j, j == 5 ? 1 : 0);
+            x.jump(j, 1);
+        }
+        Due.text(x, 1, "l-20*(s&t>60)");
+        DUE.is("then", x.then(5, 45, 0), 0);
+        DUE.is("lasts", x.lasts(5), 46);
+        DUE.is("agree", x.agree(0), 61);
+        DUE.is("fairest, which", x.fairest(0), 4);
+        DUE.is("fairest, how much", x.fairest(1), 44);
+        DUE.is("balks, who", x.balks(0), 5);
+        DUE.is("balks, how many", x.balks(1), 3);
+        DUE.is("soon", x.soon(63), Due.NONE);
+        DUE.is("odds, above", x.odds(5, 0), 61);
+        DUE.is("odds, below", x.odds(5, 1), 64);
+        x.sheet(0, 8, 6);
+        for (int j = 0; j < 6; j++) {
+            x.put(0, j, 10 + j);
+        }
+        DUE.is("fits", x.fits(0), 30);
+    }
+
     /** "BEAT beyond 99999, too": thought goes on where BEATS do not. 512 calls do not reach that, this class does. */
     private static void s3_thoughtGoesBeyond99999() {
         RopeTreaty x = Due.beaten(99999);
