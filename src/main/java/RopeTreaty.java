@@ -42,11 +42,9 @@ public final class RopeTreaty {
     private static final int MOST_LOOSE = 30;
     private static final int MOST_DIVISOR = 30;
 
-    private final Text[] texts = newTexts();
-    private final Text[] keptTexts = newTexts();
-    private final Rope now = new Rope(texts);
-    private final Rope thought = new Rope(texts);
-    private final Rope kept = new Rope(keptTexts);
+    private final Rope now = new Rope();
+    private final Rope thought = new Rope();
+    private final Rope kept = new Rope();
     private final Tape tape = new Tape();
     private final Tape keptTape = new Tape();
     private final Reader reader = new Reader();
@@ -61,13 +59,6 @@ public final class RopeTreaty {
         for (int i = 0; i < SHEETS; i++) {
             sheets[i] = new Row();
         }
-    }
-
-    private static Text[] newTexts() {
-        Text[] made = new Text[USES];
-        made[COSTS] = new Text(MOST_COST);
-        made[LIKES] = new Text(MOST);
-        return made;
     }
 
     // ---- jumpers, turners
@@ -195,7 +186,7 @@ public final class RopeTreaty {
         if (fault != NO_FAULT) {
             return -10 - fault;
         }
-        texts[use].learn(reader.code, reader.codes);
+        now.texts[use].learn(reader.code, reader.codes);
         return 1;
     }
 
@@ -203,13 +194,13 @@ public final class RopeTreaty {
         if (!isUse(use)) {
             return error(BEYOND);
         }
-        int was = texts[use].isTold() ? 1 : 0;
-        texts[use].length = 0;
+        int was = now.texts[use].isTold() ? 1 : 0;
+        now.texts[use].length = 0;
         return was;
     }
 
     public int law(int use, int a, int b, int c) {
-        return isUse(use) ? texts[use].gives(a, b, c) : error(BEYOND);
+        return isUse(use) ? now.texts[use].gives(a, b, c) : error(BEYOND);
     }
 
     // ---- beats
@@ -463,9 +454,6 @@ public final class RopeTreaty {
         kept.copy(now);
         keptTape.copy(tape);
         keptWaiting.copy(waiting);
-        for (int use = 0; use < USES; use++) {
-            keptTexts[use].copy(texts[use]);
-        }
         images++;
         return images;
     }
@@ -477,9 +465,6 @@ public final class RopeTreaty {
         now.copy(kept);
         tape.copy(keptTape);
         waiting.copy(keptWaiting);
-        for (int use = 0; use < USES; use++) {
-            texts[use].copy(keptTexts[use]);
-        }
         return now.beat;
     }
 
@@ -569,9 +554,10 @@ public final class RopeTreaty {
         return false;
     }
 
-    /** The rope with all who turn it or jump in it, as it is now, as it is thought, or as an image keeps it. */
+    /** The rope, who turns it or jumps in it, by which texts: as it is now, as it is thought, as an image keeps it. */
     private static final class Rope {
-        final Text[] texts;
+        /** What the uses give: COSTS, LIKES. */
+        final Text[] texts = {new Text(MOST_COST), new Text(MOST)};
         final int[] kind = new int[JUMPERS];
         final int[] mark = new int[JUMPERS];
         final int[] breath = new int[JUMPERS];
@@ -589,12 +575,10 @@ public final class RopeTreaty {
         int misses;
         int z = 1;
 
-        Rope(Text[] texts) {
-            this.texts = texts;
-        }
-
-        /** All becomes as another rope has it, but for the texts. */
+        /** All becomes as another rope has it. */
         void copy(Rope other) {
+            texts[COSTS].copy(other.texts[COSTS]);
+            texts[LIKES].copy(other.texts[LIKES]);
             System.arraycopy(other.kind, 0, kind, 0, JUMPERS);
             System.arraycopy(other.mark, 0, mark, 0, JUMPERS);
             System.arraycopy(other.breath, 0, breath, 0, JUMPERS);

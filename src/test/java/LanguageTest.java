@@ -104,6 +104,25 @@ public final class LanguageTest {
         DUE.is("a sign beyond 127", text.chars().anyMatch(sign -> sign > 127) ? 1 : 0, 0);
         DUE.is("a static block", java.util.regex.Pattern.compile("static\\s*\\{").matcher(code).find() ? 1 : 0, 0);
         methodLengths(code);
+        handedOut(code);
+        madeOnce(code);
+    }
+
+    /** Rule 12: what a field is made with as its object is made are constants, nothing of that object. */
+    private static void handedOut(String code) {
+        for (String line : code.split("\n")) {
+            boolean made = line.matches("\\s+(private )?final [\\w\\[\\]]+ \\w+ = .*\\w\\(([^)]*, )?[a-z].*");
+            DUE.is("made with a field or this: " + line, made ? 1 : 0, 0);
+        }
+    }
+
+    /** The one room of all calls: objects are made with a field or in the constructor, by no other call. */
+    private static void madeOnce(String code) {
+        String constructor = "public RopeTreaty\\(\\) \\{(?s).*?\n    \\}";
+        for (String line : code.replaceFirst(constructor, "").split("\n")) {
+            boolean field = line.matches("\\s+(private )?final [\\w\\[\\]]+ \\w+ = .*");
+            DUE.is("made by a call: " + line, !field && line.matches(".*\\b(new|clone|copyOf)\\b.*") ? 1 : 0, 0);
+        }
     }
 
     private static void methodLengths(String code) {
